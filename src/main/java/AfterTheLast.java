@@ -44,8 +44,8 @@ public final class AfterTheLast {
     private int ruleCount;
 
     public AfterTheLast() {
-        reader = new Reader();
-        ruleReader = new RuleReader(reader);
+        ruleReader = new RuleReader();
+        reader = ruleReader.in;
         rules = new Rule[MOST_RULES];
         scene = new Scene();
         images = new Scene[MOST_IMAGES];
@@ -874,7 +874,7 @@ public final class AfterTheLast {
         private static final int BEHIND_FACT = 6;
         private static final int NOTHING = 7;
 
-        private final Reader in;
+        private final Reader in = new Reader();
         private final int[] steps = new int[MOST_STEPS];
         private final int[] arguments = new int[MOST_STEPS];
         private final int[] kinds = new int[Rule.MOST_CLAUSES];
@@ -890,10 +890,6 @@ public final class AfterTheLast {
         private int deep = 0;
         private int brackets = 0;
         private int expected = CLAUSE;
-
-        private RuleReader(Reader reader) {
-            in = reader;
-        }
 
         /** The rule on the tape; null if there is a fault, which the reader tells. */
         private Rule read() {
@@ -1803,8 +1799,9 @@ public final class AfterTheLast {
         private static final int CHOICES = 12;
         private static final int MOST_PLANS = 1000000;
 
-        private Told told = null;
         private int wishes = 0;
+        private final int[] earliest = new int[WISHES];
+        private final int[] choices = new int[WISHES];
         /** Of a wish, a choice of it and another wish the choices that go with it, as bits. */
         private final int[] fitting = new int[WISHES * CHOICES * WISHES];
         /** Whether a wish and some later one have choices that don't go together. */
@@ -1813,30 +1810,27 @@ public final class AfterTheLast {
         private final int[] open = new int[(WISHES + 1) * WISHES];
         private final int[] chosen = new int[WISHES];
 
-        private void look(Told from) {
-            told = from;
-            wishes = Math.min(from.wishes, WISHES);
+        private void look(Told told) {
+            wishes = Math.min(told.wishes, WISHES);
             for (int wish = 0; wish < wishes; wish++) {
-                open[wish] = (1 << choices(wish)) - 1;
+                int many = told.latest[wish] - told.earliest[wish] - told.duration[wish] + 1;
+                earliest[wish] = told.earliest[wish];
+                choices[wish] = Math.max(0, Math.min(CHOICES, many));
+                open[wish] = (1 << choices[wish]) - 1;
             }
             for (int wish = 0; wish < wishes; wish++) {
                 tied[wish] = false;
                 for (int other = wish + 1; other < wishes; other++) {
-                    compare(wish, other);
+                    compare(told, wish, other);
                 }
             }
         }
 
-        private int choices(int wish) {
-            int many = told.latest[wish] - told.earliest[wish] - told.duration[wish] + 1;
-            return Math.max(0, Math.min(CHOICES, many));
-        }
-
-        private void compare(int wish, int other) {
-            for (int choice = 0; choice < choices(wish); choice++) {
+        private void compare(Told told, int wish, int other) {
+            for (int choice = 0; choice < choices[wish]; choice++) {
                 int fit = 0;
-                for (int another = 0; another < choices(other); another++) {
-                    if (goTogether(wish, choice, other, another)) {
+                for (int another = 0; another < choices[other]; another++) {
+                    if (goTogether(told, wish, choice, other, another)) {
                         fit |= 1 << another;
                     }
                 }
@@ -1851,7 +1845,7 @@ public final class AfterTheLast {
             return (wish * CHOICES + choice) * WISHES + other;
         }
 
-        private boolean goTogether(int wish, int choice, int other, int another) {
+        private static boolean goTogether(Told told, int wish, int choice, int other, int another) {
             int begin = told.earliest[wish] + choice;
             int end = begin + told.duration[wish];
             int otherBegin = told.earliest[other] + another;
@@ -1872,7 +1866,7 @@ public final class AfterTheLast {
         }
 
         private int beginOf(int wish) {
-            return wish >= 0 && wish < wishes ? told.earliest[wish] + chosen[wish] : NONE;
+            return wish >= 0 && wish < wishes ? earliest[wish] + chosen[wish] : NONE;
         }
 
         private boolean findFirst() {

@@ -131,6 +131,10 @@ public final class CrossTest {
         Check.is("by free: gap", ring.houses(31, 2, 1), 1);
         Check.is("one: houses", ring.houses(4, 0, 0), 1);
         Check.is("one: gap", ring.houses(4, 0, 1), 1);
+        AfterTheLast three = stays(9, new int[][] {{0, 1}, {10, 20}, {12, 22}, {14, 24}, {21, 30}});
+        Check.is("three of five: houses", three.houses(31, 0, 0), 3);
+        Check.is("three of five: gap", three.houses(31, 0, 1), 3);
+        Check.is("the other ones: gap", three.houses(19, 0, 1), 1);
         int[][] many = new int[13][];
         for (int i = 0; i < 13; i++) {
             many[i] = new int[] {i, 20 + i};

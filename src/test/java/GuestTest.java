@@ -75,6 +75,10 @@ public final class GuestTest {
         y.guest(3, 8);
         y.guest(7, 15);
         kept("0 and 1, or 1 and 3, or 2 and 3", y, 5, 15, 2, 3);
+        AfterTheLast z = new AfterTheLast();
+        z.guest(5, 10);
+        z.guest(4, 10);
+        kept("who comes when he could go does not find him", z, 5, 10, 1, 2);
     }
 
     private static void keptWrong() {

@@ -95,6 +95,13 @@ public final class PlanTest {
         y.wishes(3, 0, 0, 9, 9);
         y.wishes(4, 0, 2, 5, 2);
         Check.is("within one another", y.plan(6), 2);
+        int[][] alike = {{0, 4, 0, 2}, {0, 2, 0, 4}, {0, 4, 2, 4}, {2, 4, 0, 4}, {0, 4, 0, 4}, {0, 4, 4, 6}};
+        for (int[] two : alike) {
+            AfterTheLast w = new AfterTheLast();
+            w.wishes(3, 0, two[0], two[1], two[1] - two[0]);
+            w.wishes(4, 0, two[2], two[3], two[3] - two[2]);
+            Check.is(two[0] + " to " + two[1] + " and " + two[2] + " to " + two[3], w.plan(6), 1);
+        }
         AfterTheLast z = new AfterTheLast();
         z.wishes(3, 0, 0, 3, 2);
         z.wishes(4, 1, 0, 3, 2);
@@ -109,6 +116,8 @@ public final class PlanTest {
         Check.is("wish 0", x.plan(0), -2);
         Check.is("wish 1", x.plan(1), -2);
         Check.is("no wish 2", x.plan(2), -1);
+        Check.is("what 7", x.plan(7), -1);
+        Check.is("what -1", x.plan(-1), -1);
     }
 
     private static void theFirst() {

@@ -242,12 +242,12 @@ public final class QuarterTest {
     private static void logic() {
         String[] hold = {"1=1 or 1=2 and 1=2", "not 1=2 and 1=1", "not [1=1 and 1=2]", "[1=1 or 1=2] and 1=1", "not not 1=1",
             "1=2 and 1=2 or 1=1", "1=2 or 1=2 or 1=1", "1=1 and 1=1 and not 1=2", "not[not[1=1]]", "[[1=2]or[1=1]]",
-            "not 1=1 or 1=1", "1=2 and 1=1 or 1=1 and 1=1", "1=1 and [1=2 or not [1=2 or 1=3]]"};
+            "not 1=1 or 1=1", "not [1=2 and 1=1]", "not [1=2 and 1=1 and 1=1] and 1=1", "not [1=2 or 1=2]", "1=2 and 1=1 or 1=1 and 1=1", "1=1 and [1=2 or not [1=2 or 1=3]]"};
         for (String test : hold) {
             Check.is(test, reckons(test), true);
         }
         String[] not = {"[1=1 or 1=2] and 1=2", "not 1=1", "not not not 1=1", "1=1 and 1=2", "1=2 or 1=3", "not [1=2 or 1=1]",
-            "1=1 and 1=1 and 1=2", "1=2 and 1=1 or 1=1 and 1=2", "not 1=2 and 1=2", "not [1=1] or 1=2", "1=2 and [1=1 or 1=1]"};
+            "1=1 and 1=1 and 1=2", "1=2 and 1=1 or 1=1 and 1=2", "not 1=2 and 1=2", "not [1=1] or 1=2", "not [1=1 or 1=2]", "not [1=1 or 1=2 or 1=3] or 1=2", "1=2 and [1=1 or 1=1]"};
         for (String test : not) {
             Check.is(test, reckons(test), false);
         }
@@ -277,6 +277,11 @@ public final class QuarterTest {
     }
 
     private static void aheads() {
+        AfterTheLast y = Check.with("house last 3 2;stay 0 0 90 95 10");
+        Check.rule(y, "hold 1=1");
+        Check.is("all 96 quarters", y.ahead(0, 96, 1), 1);
+        Check.is("97 quarters", y.ahead(0, 97, 1), -1);
+        Check.is("nothing changed", y.count(3), 0);
         AfterTheLast x = Check.with("house last 3 2;house free 3 3;stay 0 0 0 4 10;stay 1 0 1 6 20;stay 2 1 7 9 0");
         Check.rule(x, "window late > 0");
         Check.rule(x, "hold 1=1");

@@ -6,6 +6,7 @@ public final class RingTest {
         byRuleToo();
         twoWhoWait();
         aRingOfFour();
+        aRingOfAll();
         theShortest();
         whoNeedsNobody();
         undoneOfSeveral();
@@ -133,6 +134,30 @@ public final class RingTest {
         y.waits(3, 1);
         // 1 needs 0 and 2, 2 needs 3, 3 needs 1
         rings("by the law first 1 needs 0", y, 3, 14, 2, 1);
+        AfterTheLast z = Check.with("house first 9 9;house free 9 9");
+        z.come(0, 0);
+        z.come(1, 0);
+        z.come(5, 1);
+        z.waits(0, 5);
+        z.waits(5, 1);
+        rings("by the law first 1 needs 0, who waits for 5, who waits for 1", z, 3, 35, 1, 1);
+    }
+
+    private static void aRingOfAll() {
+        StringBuilder street = new StringBuilder("house last 9 9");
+        for (int h = 1; h < 6; h++) {
+            street.append(";house last 9 9");
+        }
+        AfterTheLast x = Check.with(street.toString());
+        for (int p = 0; p < 12; p++) {
+            x.come(p, p / 2);
+        }
+        for (int p = 1; p < 11; p += 2) {
+            x.waits(p, p + 1);
+        }
+        rings("not yet", x, 0, 0, 0, 0);
+        x.waits(11, 0);
+        rings("all", x, 12, 4095, 1, 1);
     }
 
     private static void theShortest() {
@@ -213,6 +238,10 @@ public final class RingTest {
         Check.is("3's and 5's", x.asks(0), 28);
         x.go(4, false);
         Check.is("3's again", x.asks(0), 13);
+        x.go(5, false);
+        x.come(0, 0);
+        x.come(11, 0);
+        Check.is("3's and 0's", x.asks(0), 23);
         x.come(6, 1);
         x.come(7, 1);
         x.come(8, 2);

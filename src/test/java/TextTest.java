@@ -9,6 +9,7 @@ public final class TextTest {
         whatAStreetLeaves();
         rulesThatStand();
         faultsOfRules();
+        whatWasCutOff();
         tooDeep();
         tooManyParts();
         tooManyClauses();
@@ -95,6 +96,9 @@ public final class TextTest {
         badStreet("house  ", 7, 0);
         badStreet("houses last 1 1", 0, 0);
         badStreet(" houselast 1 1", 1, 0);
+        badStreet("housea last 1 1", 0, 0);
+        badStreet("housez last 1 1", 0, 0);
+        street("house last1 1", 1);
         badStreet("House last 1 1", 0, 0);
         badStreet("hous e last 1 1", 0, 0);
         badStreet(";house last 1 1", 0, 0);
@@ -260,6 +264,30 @@ public final class TextTest {
         badRule("come Now = 1", 5, 0);
         badRule("come now = 1\u0000", 12, 0);
         badRule("come now = 1 not", 13, 0);
+    }
+
+    /** What was cut off by end is no longer there. */
+    private static void whatWasCutOff() {
+        AfterTheLast x = new AfterTheLast();
+        Check.tell(x, "come now <= 1");
+        x.end(10);
+        Check.is("cut behind <", x.rule(), Check.fault(10, 0));
+        Check.tell(x, "come now = 1 or 2 = 2");
+        x.end(12);
+        Check.is("cut behind a test", x.rule(), 0);
+        Check.tell(x, "come now = 1");
+        x.end(7);
+        Check.is("cut within a word", x.rule(), Check.fault(5, 0));
+        Check.tell(x, "house last 1 12");
+        x.end(14);
+        Check.is("cut within a number", x.street(), 1);
+        Check.is("1 window", x.house(0, 2), 1);
+        Check.tell(x, "house free 1 1");
+        x.end(9);
+        Check.is("cut within a law", x.street(), Check.fault(6, 0));
+        Check.tell(x, "house free 2 2 x");
+        x.end(14);
+        Check.is("cut ahead of a fault", x.street(), 1);
     }
 
     private static void tooDeep() {
