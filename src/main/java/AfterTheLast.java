@@ -1321,14 +1321,14 @@ public final class AfterTheLast {
             return isStay(stay) && till[stay] <= now;
         }
 
-        /** The first of somebody's stays that he could begin now; NONE: there is none. */
-        private int stayToBegin(int person) {
-            for (int stay = 0; stay < stays; stay++) {
-                if (who[stay] == person && begun[stay] == 0 && from[stay] <= now && till[stay] > now) {
-                    return stay;
+        /** Of each person the first of his stays that he could begin now; NONE: there is none. */
+        private void findStaysToBegin(int[] firsts) {
+            Arrays.fill(firsts, NONE);
+            for (int stay = stays - 1; stay >= 0; stay--) {
+                if (begun[stay] == 0 && from[stay] <= now && till[stay] > now) {
+                    firsts[who[stay]] = stay;
                 }
             }
-            return NONE;
         }
 
         private int served() {
@@ -1448,6 +1448,7 @@ public final class AfterTheLast {
         private static final int MOST_VALUES = 64;
 
         private final long[] values = new long[MOST_VALUES];
+        private final int[] toBegin = new int[PEOPLE];
 
         private void quarters(Rule rule, Town town, int many) {
             if (rule == null) {
@@ -1491,13 +1492,13 @@ public final class AfterTheLast {
 
         private void letIn(Rule rule, Town town) {
             boolean anybody = !rule.has(KIND_COME);
+            // a coming begins a stay of whoever comes alone: so they can be found ahead, for all at once
+            town.findStaysToBegin(toBegin);
             for (int person = 0; person < PEOPLE; person++) {
-                if (town.houseOf[person] == NONE) {
-                    int stay = town.stayToBegin(person);
-                    if (stay != NONE && town.roomLeft(town.where[stay]) > 0
-                            && (anybody || someTestHolds(rule, KIND_COME, town, person, stay))) {
-                        town.enter(person, town.where[stay], stay);
-                    }
+                int stay = toBegin[person];
+                if (stay != NONE && town.houseOf[person] == NONE && town.roomLeft(town.where[stay]) > 0
+                        && (anybody || someTestHolds(rule, KIND_COME, town, person, stay))) {
+                    town.enter(person, town.where[stay], stay);
                 }
             }
         }
@@ -1827,9 +1828,10 @@ public final class AfterTheLast {
         }
 
         private void compare(Told told, int wish, int other) {
+            boolean apart = told.wisher[wish] != told.wisher[other] && told.wished[wish] != told.wished[other];
             for (int choice = 0; choice < choices[wish]; choice++) {
-                int fit = 0;
-                for (int another = 0; another < choices[other]; another++) {
+                int fit = apart ? open[other] : 0;
+                for (int another = 0; another < choices[other] && !apart; another++) {
                     if (goTogether(told, wish, choice, other, another)) {
                         fit |= 1 << another;
                     }
