@@ -1847,6 +1847,7 @@ public final class AfterTheLast {
             return (wish * CHOICES + choice) * WISHES + other;
         }
 
+        /** Of two wishes of one person or of one house. */
         private static boolean goTogether(Told told, int wish, int choice, int other, int another) {
             int begin = told.earliest[wish] + choice;
             int end = begin + told.duration[wish];
@@ -1858,9 +1859,6 @@ public final class AfterTheLast {
             }
             if (told.wisher[wish] == told.wisher[other]) {
                 return false;
-            }
-            if (told.wished[wish] != told.wished[other]) {
-                return true;
             }
             boolean within = begin <= otherBegin && otherEnd <= end;
             boolean about = otherBegin <= begin && end <= otherEnd;

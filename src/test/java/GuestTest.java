@@ -3,6 +3,7 @@ public final class GuestTest {
     public static void main(String[] args) {
         telling();
         keeping();
+        guestsOfBefore();
         ofSeveralSets();
         keptWrong();
         knocking();
@@ -57,6 +58,18 @@ public final class GuestTest {
         kept("he can go at 10", x, 10, 20, 1, 2);
         kept("the order they are told in is nothing", x, 1, 30, 4, 15);
         kept("0 to the end of all", x, 0, 95, -2, -2);
+    }
+
+    /** Guests of before are gone. */
+    private static void guestsOfBefore() {
+        AfterTheLast x = new AfterTheLast();
+        x.guest(0, 10);
+        x.guest(0, 50);
+        x.guest(-1, 0);
+        kept("none any more", x, 5, 6, -2, -2);
+        x.guest(0, 10);
+        kept("one again", x, 5, 10, 1, 1);
+        kept("but not the other one", x, 5, 11, -2, -2);
     }
 
     private static void ofSeveralSets() {
@@ -137,6 +150,9 @@ public final class GuestTest {
         let(8, 5, 10, 4, 0, 0);
         let(8, 5, 10, 5, 0, 1);
         let(8, 1, 10, 0, 0, 0);
+        let(8, 1, 10, 95, 94, 1);
+        let(8, 1, 10, 95, 95, 0);
+        let(16, 95, 99, 95, 95, 0);
     }
 
     private static void knocksWrong() {

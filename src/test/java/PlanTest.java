@@ -9,6 +9,7 @@ public final class PlanTest {
         noPlan();
         theFirst();
         manyPlans();
+        wishesOfBefore();
         Check.done();
     }
 
@@ -135,6 +136,25 @@ public final class PlanTest {
         Check.is("first", y.plan(0), 0);
         Check.is("second", y.plan(1), 1);
         Check.is("0 and 1, 3 and 0", y.plan(6), 2);
+    }
+
+    /** What an earlier look at other wishes left behind counts for nothing. */
+    private static void wishesOfBefore() {
+        AfterTheLast x = new AfterTheLast();
+        for (int i = 0; i < 6; i++) {
+            x.wishes(i, i, 0, 12, 1);
+        }
+        x.plan(0);
+        x.plan(6);
+        x.wishes(-1, 0, 0, 0, 0);
+        x.wishes(0, 0, 0, 6, 2);
+        x.wishes(1, 0, 1, 3, 2);
+        Check.is("the first begins at 1", x.plan(0), 1);
+        Check.is("the second begins at 1", x.plan(1), 1);
+        Check.is("1, 3 and 4", x.plan(6), 3);
+        x.wishes(2, 1, 0, 3, 2);
+        Check.is("twice as many", x.plan(6), 6);
+        Check.is("no wish 3", x.plan(3), -1);
     }
 
     private static void manyPlans() {

@@ -15,6 +15,9 @@ public final class QuarterTest {
         logic();
         ticks();
         aheads();
+        aStreetOfBefore();
+        aFullStreet();
+        allSixRules();
         bestRules();
         Check.done();
     }
@@ -308,6 +311,72 @@ public final class QuarterTest {
         Check.is("late so far", x.count(4), 2);
         Check.is("late ahead of 0", x.ahead(1, 0, 1), 0);
         Check.is("late ahead of 1", x.ahead(1, 1, 1), 2);
+    }
+
+    /** Houses and stays of a street before this one are gone. */
+    private static void aStreetOfBefore() {
+        AfterTheLast x = Check.with("house free 9 9;house free 9 8;stay 0 0 0 9 1;stay 1 1 0 9 1;stay 2 1 50 60 1");
+        Check.rule(x, "hold 1=1");
+        x.come(7, 1);
+        x.tick(0, 2);
+        Check.is("served", x.count(5), 2);
+        Check.street(x, "house free 9 1;stay 3 0 40 50 1");
+        Check.is("nobody inside", x.count(7), 0);
+        Check.is("none missed", x.count(6), 0);
+        Check.is("windows", x.ahead(0, 0, 3), 1);
+        Check.is("inside at the end", x.ahead(0, 96, 0), 1);
+        Check.is("served at the end", x.ahead(0, 96, 2), 1);
+        Check.is("now", x.tick(0, 96), 96);
+        Check.is("served", x.count(5), 1);
+        Check.is("missed", x.count(6), 0);
+        Check.is("inside", x.count(7), 1);
+    }
+
+    /** Six houses, eighteen stays, and all twelve in the last house. */
+    private static void aFullStreet() {
+        StringBuilder street = new StringBuilder("house free 12 9");
+        for (int h = 1; h < 6; h++) {
+            street.append(";house free 12 9");
+        }
+        for (int s = 0; s < 18; s++) {
+            street.append(";stay ").append(s % 12).append(" 5 ").append(s / 12 * 9).append(' ').append(s / 12 * 9 + 4).append(" 1");
+        }
+        AfterTheLast x = Check.with(street.toString());
+        Check.rule(x, "come now < 9");
+        x.tick(0, 1);
+        Check.is("all twelve inside", x.house(5, 3), 12);
+        Check.is("inside", x.count(7), 12);
+        Check.is("served", x.count(5), 12);
+        Check.is("windows", x.ahead(0, 0, 3), 54);
+        Check.is("the first goes", x.go(0, false), true);
+        Check.is("the next one is first", x.house(5, 5), 1);
+        Check.is("the last is last", x.house(5, 4), 11);
+        Check.is("he comes again", x.come(0, 5), true);
+        Check.is("he is last", x.house(5, 4), 0);
+        Check.is("a middle one goes", x.go(6, true), true);
+        Check.is("eleven", x.count(7), 11);
+        x.tick(0, 95);
+        Check.is("who came by hand is there", x.count(7), 1);
+        Check.is("missed", x.count(6), 6);
+        Check.is("windows", x.ahead(0, 0, 3), 53);
+        Check.is("evenings", x.evenings(0, 2, 1), 24);
+    }
+
+    private static void allSixRules() {
+        AfterTheLast x = Check.with("house free 9 9;stay 0 0 0 9 1");
+        for (int rule = 0; rule < 6; rule++) {
+            Check.is("not told yet: tick", x.tick(rule, 1), -1);
+            Check.is("not told yet: ahead", x.ahead(rule, 1, 0), -1);
+            Check.is("not told yet: evenings", x.evenings(rule, 1, 0), -1);
+            Check.rule(x, "come now >= " + rule);
+        }
+        for (int rule = 0; rule < 6; rule++) {
+            Check.is("told: ahead", x.ahead(rule, rule, 0), 0);
+            Check.is("told: ahead, one more", x.ahead(rule, rule + 1, 0), 1);
+        }
+        Check.is("no seventh: tick", x.tick(6, 1), -1);
+        Check.is("no seventh: ahead", x.ahead(6, 1, 0), -1);
+        Check.is("no seventh: evenings", x.evenings(6, 1, 0), -1);
     }
 
     private static void bestRules() {
