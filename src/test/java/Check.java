@@ -1,16 +1,32 @@
 /** Counts what is as due and tells what is not. */
 final class Check {
+    private static final int MOST_TOLD = 20;
     private static int passed = 0;
     private static int failed = 0;
+    private static String sentence = "";
 
     private Check() { }
+
+    /** Of which sentence of the document the next checks are. */
+    static void about(String what) {
+        sentence = what;
+    }
 
     static void is(String what, long got, long want) {
         if (got == want) {
             passed++;
         } else {
             failed++;
-            System.out.println(what + " answered " + got + ", due is " + want);
+            if (failed <= MOST_TOLD) {
+                tellWrong(what + " answered " + got + ", due is " + want);
+            }
+        }
+    }
+
+    private static void tellWrong(String what) {
+        System.out.println(what);
+        if (!sentence.isEmpty()) {
+            System.out.println("    (" + sentence + ")");
         }
     }
 
@@ -33,6 +49,25 @@ final class Check {
             x.feed(n[0], n[1], n[2], n[3], n[4]);
         }
         x.end(text.length());
+    }
+
+    /** A text in which ^ marks a place has a fault there. */
+    static void badStreet(String marked, int kind) {
+        String text = marked.replace("^", "");
+        is("street '" + marked + "'", street(new AfterTheLast(), text), fault(marked.indexOf('^'), kind));
+    }
+
+    static void badRule(String marked, int kind) {
+        String text = marked.replace("^", "");
+        is("rule '" + marked + "'", rule(new AfterTheLast(), text), fault(marked.indexOf('^'), kind));
+    }
+
+    static void goodStreet(String text, int houses) {
+        is("street '" + text + "'", street(new AfterTheLast(), text), houses);
+    }
+
+    static void goodRule(String text) {
+        is("rule '" + text + "'", rule(new AfterTheLast(), text), 0);
     }
 
     static int street(AfterTheLast x, String text) {
