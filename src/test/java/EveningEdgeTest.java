@@ -9,6 +9,7 @@ public final class EveningEdgeTest {
         laterByADraw();
         at95AtMost();
         eachStayByItsNumber();
+        oneThatWasMissed();
         xGoesOn();
         fromNowTo96();
         withoutStays();
@@ -112,6 +113,21 @@ public final class EveningEdgeTest {
         Check.is("late", x.evenings(0, 1, 0), due);
         Check.is("served", x.evenings(0, 1, 1), 18);
         Check.is("somebody is inside", x.evenings(0, 20, 2), 0);
+    }
+
+    /** A till that is put off beyond NOW is above NOW: so the stay can begin, though it was missed. */
+    private static void oneThatWasMissed() {
+        AfterTheLast x = Check.with("house free 1 0;stay 0 0 0 2 0");
+        Check.rule(x, "come 1=2");
+        Check.rule(x, "come 1=1");
+        x.tick(0, 3);
+        Check.is("missed", x.count(6), 1);
+        for (int seed = 0; seed < 40; seed++) {
+            x.seed(seed * 53687091);
+            int off = next(seed * 53687091) / 65536 % 4;
+            Check.is("put off by " + off, x.evenings(1, 1, 1), off >= 2 ? 1 : 0);
+        }
+        Check.is("missed as before", x.count(6), 1);
     }
 
     private static void xGoesOn() {
