@@ -5,7 +5,7 @@ import java.util.List;
 import java.util.regex.Matcher;
 import java.util.regex.Pattern;
 
-/** Each paragraph of the document that tells what the program does has a sentence that a test names. */
+/** Each word of the document that tells what the program does stands in a sentence that a test names. */
 public final class DocTest {
     private static final Pattern NAMED = Pattern.compile("Doc\\.says\\(\"((?:[^\"\\\\]|\\\\.)*)\"\\)");
 
@@ -20,10 +20,25 @@ public final class DocTest {
         int promises = 0;
         for (String paragraph : paragraphs(Doc.read(Path.of("../shared/DOC.md")))) {
             Check.is("a test of '" + paragraph + "'", named.stream().anyMatch(paragraph::contains), true);
+            String left = unnamed(paragraph, named);
+            Check.is("a test of '" + left + "' of '" + paragraph + "'", left.matches("[^A-Za-z0-9]*"), true);
             promises += paragraph.startsWith("`") && paragraph.contains(")`: ") ? 1 : 0;
         }
         Check.is("promises", promises, 34);
         Check.done();
+    }
+
+    /** What is left of a paragraph without the sentences named, its part's number and the method's head. */
+    private static String unnamed(String paragraph, List<String> named) {
+        char[] left = paragraph.replaceAll("^==== [IVX]+\\.", "").replaceAll("^`[^`]*`:", "").toCharArray();
+        String whole = new String(left);
+        for (String sentence : named) {
+            int at = whole.indexOf(sentence);
+            for (int i = 0; at >= 0 && i < sentence.length(); i++) {
+                left[at + i] = ' ';
+            }
+        }
+        return Doc.plain(new String(left));
     }
 
     private static List<String> paragraphs(String document) {

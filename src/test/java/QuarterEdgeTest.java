@@ -52,7 +52,7 @@ public final class QuarterEdgeTest {
     }
 
     private static void againTillNobodyGoes() {
-        Doc.says("(1) again and again, till nobody goes any more: the first of PEOPLE, by their numbers");
+        Doc.says("A QUARTER by a RULE: (1) again and again, till nobody goes any more: the first of PEOPLE, by their numbers");
         for (String law : new String[] {"last", "first", "free"}) {
             AfterTheLast x = with(allTill1(law + " 12 0", 12), "come 1=1");
             x.tick(0, 1);
