@@ -1745,28 +1745,28 @@ public final class AfterTheLast {
         }
 
         private int mostOfWhichAllCross() {
-            return mostFrom(0, (1 << points) - 1);
+            return mostFrom(this, 0, (1 << points) - 1);
         }
 
-        /** The most of which each two cross, of some of the points, all from one point on. */
-        private int mostFrom(int point, int among) {
-            if (point >= points || among == 0) {
+        /** The most of which each two cross, of some of the points drawn, all from one point on. */
+        private static int mostFrom(Crossings drawn, int point, int among) {
+            if (point >= drawn.points || among == 0) {
                 return 0;
             }
             int rest = among & ~(1 << point);
             if (rest == among) {
-                return mostFrom(point + 1, among);
+                return mostFrom(drawn, point + 1, among);
             }
-            int with = 1 + mostFrom(point + 1, rest & crossed[point]);
-            if ((rest & ~crossed[point]) == 0) {
+            int with = 1 + mostFrom(drawn, point + 1, rest & drawn.crossed[point]);
+            if ((rest & ~drawn.crossed[point]) == 0) {
                 return with;
             }
-            return Math.max(with, mostFrom(point + 1, rest));
+            return Math.max(with, mostFrom(drawn, point + 1, rest));
         }
 
         private int fewestParts() {
             for (int many = mostOfWhichAllCross(); many < points; many++) {
-                if (canBePutInto(many, 0, 0)) {
+                if (canBePutInto(this, many, 0, 0)) {
                     return many;
                 }
             }
@@ -1774,19 +1774,19 @@ public final class AfterTheLast {
         }
 
         /** Whether a point and those behind it find places in so many parts, some of them begun. */
-        private boolean canBePutInto(int many, int point, int begun) {
-            if (point >= points) {
+        private static boolean canBePutInto(Crossings drawn, int many, int point, int begun) {
+            if (point >= drawn.points) {
                 return true;
             }
             // of the parts that are still empty one is as good as another
             for (int part = 0; part < many && part <= begun && part < MOST_POINTS; part++) {
-                int was = part < begun ? parts[part] : 0;
-                if ((was & crossed[point]) == 0) {
-                    parts[part] = was | 1 << point;
-                    if (canBePutInto(many, point + 1, Math.max(begun, part + 1))) {
+                int was = part < begun ? drawn.parts[part] : 0;
+                if ((was & drawn.crossed[point]) == 0) {
+                    drawn.parts[part] = was | 1 << point;
+                    if (canBePutInto(drawn, many, point + 1, Math.max(begun, part + 1))) {
                         return true;
                     }
-                    parts[part] = was;
+                    drawn.parts[part] = was;
                 }
             }
             return false;
@@ -1870,17 +1870,17 @@ public final class AfterTheLast {
         }
 
         private boolean findFirst() {
-            return findFrom(0);
+            return findFrom(this, 0);
         }
 
-        private boolean findFrom(int wish) {
-            if (wish >= wishes) {
+        private static boolean findFrom(Planner plans, int wish) {
+            if (wish >= plans.wishes) {
                 return true;
             }
             for (int choice = 0; choice < CHOICES; choice++) {
-                if (isOpen(wish, choice) && choose(wish, choice)) {
-                    chosen[wish] = choice;
-                    if (findFrom(wish + 1)) {
+                if (plans.isOpen(wish, choice) && plans.choose(wish, choice)) {
+                    plans.chosen[wish] = choice;
+                    if (findFrom(plans, wish + 1)) {
                         return true;
                     }
                 }
@@ -1905,25 +1905,26 @@ public final class AfterTheLast {
         }
 
         private int howMany() {
-            return Math.min(MOST_PLANS, countFrom(0));
+            return Math.min(MOST_PLANS, countFrom(this, 0));
         }
 
         /** How many plans there are for a wish and the later ones, or some number above the most. */
-        private int countFrom(int wish) {
-            if (wish >= wishes) {
+        private static int countFrom(Planner plans, int wish) {
+            if (wish >= plans.wishes) {
                 return 1;
             }
-            if (!tied[wish]) {
+            if (!plans.tied[wish]) {
+                int[] open = plans.open;
                 System.arraycopy(open, wish * WISHES, open, (wish + 1) * WISHES, WISHES);
-                return Integer.bitCount(open[wish * WISHES + wish]) * countFrom(wish + 1);
+                return Integer.bitCount(open[wish * WISHES + wish]) * countFrom(plans, wish + 1);
             }
-            if (wish == wishes - 2) {
-                return countLastTwo(wish);
+            if (wish == plans.wishes - 2) {
+                return plans.countLastTwo(wish);
             }
             int together = 0;
             for (int choice = 0; choice < CHOICES && together < MOST_PLANS; choice++) {
-                if (isOpen(wish, choice) && choose(wish, choice)) {
-                    together += countFrom(wish + 1);
+                if (plans.isOpen(wish, choice) && plans.choose(wish, choice)) {
+                    together += countFrom(plans, wish + 1);
                 }
             }
             return together;

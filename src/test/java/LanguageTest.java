@@ -27,6 +27,7 @@ import java.util.Map;
 import java.util.Set;
 import javax.lang.model.element.Element;
 import javax.lang.model.element.ElementKind;
+import javax.lang.model.element.Modifier;
 import javax.lang.model.element.TypeElement;
 import javax.tools.JavaCompiler;
 import javax.tools.StandardJavaFileManager;
@@ -159,6 +160,10 @@ public final class LanguageTest extends TreePathScanner<Void, Void> {
     /** The calls that stand open at once, those of a recursion as one. */
     private void depths() {
         for (Element method : calls.keySet()) {
+            if (calls.get(method).contains(method)) {
+                Check.is(method + " calls itself and is private and static",
+                    method.getModifiers().containsAll(Set.of(Modifier.PRIVATE, Modifier.STATIC)), true);
+            }
             int deep = depth(method, new ArrayList<>());
             Check.is(method + " goes at most eight deep: " + deep, deep <= MOST_DEEP, true);
         }
